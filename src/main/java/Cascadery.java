@@ -92,92 +92,61 @@ public final class Cascadery {
     // ---- trees
 
     public int make(int kind) throws IllegalArgumentException, IllegalStateException {
-        if (!isBelow(kind, KINDS)) {
-            throw new IllegalArgumentException();
-        }
-        if (trees.count >= MOST_ELEMENTS) {
-            throw new IllegalStateException();
-        }
+        refuseArgument(!isBelow(kind, KINDS));
+        refuseState(trees.count >= MOST_ELEMENTS);
         return trees.addElement(kind);
     }
 
     public void shadow(int element) throws IndexOutOfBoundsException, IllegalStateException {
-        Element e = trees.at(element);
-        if (e == null) {
-            throw new IndexOutOfBoundsException();
-        }
-        if (e.isHost) {
-            throw new IllegalStateException();
-        }
+        Element e = elementAt(element);
+        refuseState(e.isHost);
         e.isHost = true;
         trees.layOut();
         markAll();
     }
 
     public void put(int element, int parent, int place) throws IndexOutOfBoundsException, IllegalStateException {
-        Element e = trees.at(element);
-        Element above = trees.at(parent);
-        if (e == null || above == null || place < 0 || place > trees.countFrom(above.firstChild)) {
-            throw new IndexOutOfBoundsException();
-        }
-        if (!trees.mayEnter(e, above)) {
-            throw new IllegalStateException();
-        }
+        Element e = elementAt(element);
+        Element above = elementAt(parent);
+        refuseBounds(place < 0 || place > trees.countFrom(above.firstChild));
+        refuseState(!trees.mayEnter(e, above));
         trees.insert(e, above, null, place);
         markMove(e, e.next, above, e.treeHost);
     }
 
     public void putTop(int element, int host, int place) throws IndexOutOfBoundsException, IllegalStateException {
-        Element e = trees.at(element);
-        Element above = trees.at(host);
-        if (e == null || above == null || !above.isHost || place < 0 || place > trees.countFrom(above.firstTop)) {
-            throw new IndexOutOfBoundsException();
-        }
-        if (!trees.mayEnter(e, above)) {
-            throw new IllegalStateException();
-        }
+        Element e = elementAt(element);
+        Element above = elementAt(host);
+        refuseBounds(!above.isHost || place < 0 || place > trees.countFrom(above.firstTop));
+        refuseState(!trees.mayEnter(e, above));
         trees.insert(e, null, above, place);
         markMove(e, e.next, null, above);
     }
 
     public int take(int element) throws IndexOutOfBoundsException, IllegalStateException {
-        Element e = trees.at(element);
-        if (e == null) {
-            throw new IndexOutOfBoundsException();
-        }
+        Element e = elementAt(element);
         Element parent = e.parent;
         Element host = e.host;
-        if (parent == null && host == null) {
-            throw new IllegalStateException();
-        }
+        int from = parent != null ? parent.number : host != null ? ELEMENT_OFFSET + host.number : NONE;
+        refuseState(from == NONE);
         Element behind = e.next;
         Element treeHost = e.treeHost;
         trees.remove(e);
         markMove(e, behind, parent, treeHost);
-        return parent != null ? parent.number : ELEMENT_OFFSET + host.number;
+        return from;
     }
 
     public boolean setClass(int element, int name, boolean is) throws IndexOutOfBoundsException, IllegalArgumentException {
-        Element e = trees.at(element);
-        if (e == null) {
-            throw new IndexOutOfBoundsException();
-        }
-        if (!isBelow(name, CLASSES)) {
-            throw new IllegalArgumentException();
-        }
+        Element e = elementAt(element);
+        refuseArgument(!isBelow(name, CLASSES));
         boolean had = isMember(e.classes, name);
         giveClass(e, name, is);
         return had;
     }
 
     public boolean setState(int element, int state, boolean is) throws IndexOutOfBoundsException, IllegalArgumentException {
-        Element e = trees.at(element);
-        if (e == null) {
-            throw new IndexOutOfBoundsException();
-        }
-        if (!isBelow(state, STATES)) {
-            throw new IllegalArgumentException();
-        }
+        Element e = elementAt(element);
+        refuseArgument(!isBelow(state, STATES));
         boolean had = isMember(e.states, state);
         e.states = is ? e.states | 1 << state : e.states & ~(1 << state);
         trees.version++;
@@ -186,13 +155,8 @@ public final class Cascadery {
     }
 
     public int setAttribute(int element, int attribute, int number) throws IndexOutOfBoundsException, IllegalArgumentException {
-        Element e = trees.at(element);
-        if (e == null) {
-            throw new IndexOutOfBoundsException();
-        }
-        if (!isBelow(attribute, ATTRIBUTES) || number != NONE && !isBelow(number, ATTRIBUTE_NUMBERS)) {
-            throw new IllegalArgumentException();
-        }
+        Element e = elementAt(element);
+        refuseArgument(!isBelow(attribute, ATTRIBUTES) || number != NONE && !isBelow(number, ATTRIBUTE_NUMBERS));
         int before = attribute == 0 ? e.attribute0 : e.attribute1;
         if (attribute == 0) {
             e.attribute0 = number;
@@ -207,13 +171,8 @@ public final class Cascadery {
     }
 
     public int setPart(int element, int part) throws IndexOutOfBoundsException, IllegalArgumentException {
-        Element e = trees.at(element);
-        if (e == null) {
-            throw new IndexOutOfBoundsException();
-        }
-        if (part != NONE && !isBelow(part, PARTS)) {
-            throw new IllegalArgumentException();
-        }
+        Element e = elementAt(element);
+        refuseArgument(part != NONE && !isBelow(part, PARTS));
         int before = e.part;
         e.part = part;
         trees.version++;
@@ -222,27 +181,18 @@ public final class Cascadery {
     }
 
     public int shownParent(int element) throws IndexOutOfBoundsException {
-        Element e = trees.at(element);
-        if (e == null) {
-            throw new IndexOutOfBoundsException();
-        }
+        Element e = elementAt(element);
         return e.shownParent == null ? NONE : e.shownParent.number;
     }
 
     public boolean isIn(int element) throws IndexOutOfBoundsException {
-        Element e = trees.at(element);
-        if (e == null) {
-            throw new IndexOutOfBoundsException();
-        }
-        return trees.holdsElement(e);
+        return trees.holdsElement(elementAt(element));
     }
 
     // ---- selectors
 
     public int test(int test, int one, int two) throws IllegalArgumentException, IndexOutOfBoundsException, IllegalStateException {
-        if (!suitsTest(test, one, two)) {
-            throw new IllegalArgumentException();
-        }
+        refuseArgument(!suitsTest(test, one, two));
         Selector inner = null;
         if (test == NOT || test == IS || test == HAS) {
             inner = matcher.selectorAt(test == HAS ? two : one);
@@ -254,78 +204,53 @@ public final class Cascadery {
             }
         }
         Selector draft = matcher.draft;
-        if (draft.last.count >= MOST_TESTS || test == PART && draft.part != NONE) {
-            throw new IllegalStateException();
-        }
+        refuseState(draft.last.count >= MOST_TESTS || test == PART && draft.part != NONE);
         draft.addTest(test, one, two, inner);
         return draft.last.count;
     }
 
     public int join(int combinator) throws IllegalArgumentException, IllegalStateException {
-        if (!isBelow(combinator, LATER + 1)) {
-            throw new IllegalArgumentException();
-        }
+        refuseArgument(!isBelow(combinator, LATER + 1));
         Selector draft = matcher.draft;
-        if (draft.compounds >= MOST_COMPOUNDS || draft.part != NONE) {
-            throw new IllegalStateException();
-        }
+        refuseState(draft.compounds >= MOST_COMPOUNDS || draft.part != NONE);
         draft.addCompound(combinator);
         return draft.compounds;
     }
 
     public int select() throws IllegalStateException {
-        if (matcher.count >= MOST_SELECTORS) {
-            throw new IllegalStateException();
-        }
+        refuseState(matcher.count >= MOST_SELECTORS);
         return matcher.keepDraft();
     }
 
     public int weight(int selector) throws IndexOutOfBoundsException {
-        Selector s = matcher.selectorAt(selector);
-        if (s == null) {
-            throw new IndexOutOfBoundsException();
-        }
-        return s.weight;
+        return selectorAt(selector).weight;
     }
 
     public boolean matches(int element, int selector, int host) throws IndexOutOfBoundsException {
-        Element e = trees.at(element);
-        Selector s = matcher.selectorAt(selector);
-        if (e == null || s == null || !trees.hasTree(host)) {
-            throw new IndexOutOfBoundsException();
-        }
+        Element e = elementAt(element);
+        Selector s = selectorAt(selector);
+        refuseBounds(!trees.hasTree(host));
         return isMember(matcher.setOf(s, trees.at(host)), e.number);
     }
 
     public int allThat(int selector, int host) throws IndexOutOfBoundsException {
-        Selector s = matcher.selectorAt(selector);
-        if (s == null || !trees.hasTree(host)) {
-            throw new IndexOutOfBoundsException();
-        }
+        Selector s = selectorAt(selector);
+        refuseBounds(!trees.hasTree(host));
         return matcher.setOf(s, trees.at(host));
     }
 
     // ---- sheets, rules, declarations
 
     public int sheet(int origin, int host, int layer) throws IllegalArgumentException, IndexOutOfBoundsException, IllegalStateException {
-        if (!isBelow(origin, AUTHOR + 1) || layer != NONE && !isBelow(layer, LAYERS)) {
-            throw new IllegalArgumentException();
-        }
-        if (!trees.hasTree(host)) {
-            throw new IndexOutOfBoundsException();
-        }
-        if (cascade.sheetCount >= MOST_SHEETS) {
-            throw new IllegalStateException();
-        }
+        refuseArgument(!isBelow(origin, AUTHOR + 1) || layer != NONE && !isBelow(layer, LAYERS));
+        refuseBounds(!trees.hasTree(host));
+        refuseState(cascade.sheetCount >= MOST_SHEETS);
         markAll();
         return cascade.addSheet(origin, trees.at(host), layer);
     }
 
     public boolean turn(int sheet, boolean is) throws IndexOutOfBoundsException {
-        Sheet s = cascade.sheetAt(sheet);
-        if (s == null) {
-            throw new IndexOutOfBoundsException();
-        }
+        Sheet s = sheetAt(sheet);
         boolean was = s.isOn;
         s.isOn = is;
         markAll();
@@ -333,26 +258,16 @@ public final class Cascadery {
     }
 
     public int rule(int sheet, int selector) throws IndexOutOfBoundsException, IllegalStateException {
-        Sheet s = cascade.sheetAt(sheet);
-        Selector chosen = matcher.selectorAt(selector);
-        if (s == null || chosen == null) {
-            throw new IndexOutOfBoundsException();
-        }
-        if (cascade.ruleCount >= MOST_RULES) {
-            throw new IllegalStateException();
-        }
+        Sheet s = sheetAt(sheet);
+        Selector chosen = selectorAt(selector);
+        refuseState(cascade.ruleCount >= MOST_RULES);
         markAll();
         return cascade.addRule(s, chosen);
     }
 
     public void when(int rule, int condition, int number) throws IndexOutOfBoundsException, IllegalArgumentException {
-        Rule r = cascade.ruleAt(rule);
-        if (r == null) {
-            throw new IndexOutOfBoundsException();
-        }
-        if (condition != NONE && !isBelow(condition, KNOWN + 1) || !isNumber(number)) {
-            throw new IllegalArgumentException();
-        }
+        Rule r = ruleAt(rule);
+        refuseArgument(condition != NONE && !isBelow(condition, KNOWN + 1) || !isNumber(number));
         r.condition = condition;
         r.limit = number;
         markAll();
@@ -360,13 +275,8 @@ public final class Cascadery {
 
     public int declare(int rule, int property, int unit, int number, boolean isImportant) throws IndexOutOfBoundsException, IllegalArgumentException {
         Rule block = blockAt(rule);
-        if (block == null) {
-            throw new IndexOutOfBoundsException();
-        }
-        if (!isBelow(property, PROPERTIES + 1) || !isBelow(unit, REVERT + 1) || unit < AUTO && !isNumber(number)
-                || !suits(firstOf(property), unit)) {
-            throw new IllegalArgumentException();
-        }
+        refuseArgument(!isBelow(property, PROPERTIES + 1) || !isBelow(unit, REVERT + 1) || unit < AUTO && !isNumber(number)
+                || !suits(firstOf(property), unit));
         for (int p = firstOf(property); p <= lastOf(property); p++) {
             block.enter(p, unit, unit < AUTO ? number : 0, isImportant);
         }
@@ -376,13 +286,8 @@ public final class Cascadery {
 
     public int declareVar(int rule, int property, int variable, int unit, int number, boolean isImportant) throws IndexOutOfBoundsException, IllegalArgumentException {
         Rule block = blockAt(rule);
-        if (block == null) {
-            throw new IndexOutOfBoundsException();
-        }
-        if (!isBelow(property, PROPERTIES + 1) || variable < FIRST_VARIABLE || variable >= PROPERTIES
-                || unit != NONE && !isBelow(unit, AUTO + 1) || !isNumber(number)) {
-            throw new IllegalArgumentException();
-        }
+        refuseArgument(!isBelow(property, PROPERTIES + 1) || variable < FIRST_VARIABLE || variable >= PROPERTIES
+                || unit != NONE && !isBelow(unit, AUTO + 1) || !isNumber(number));
         for (int p = firstOf(property); p <= lastOf(property); p++) {
             block.enter(p, VAR, unit < AUTO ? number : 0, isImportant);
             block.enterVariable(p, variable, unit);
@@ -393,12 +298,7 @@ public final class Cascadery {
 
     public int undeclare(int rule, int property) throws IndexOutOfBoundsException, IllegalArgumentException {
         Rule block = blockAt(rule);
-        if (block == null) {
-            throw new IndexOutOfBoundsException();
-        }
-        if (!isBelow(property, PROPERTIES + 1)) {
-            throw new IllegalArgumentException();
-        }
+        refuseArgument(!isBelow(property, PROPERTIES + 1));
         for (int p = firstOf(property); p <= lastOf(property); p++) {
             block.declared &= ~(1 << p);
         }
@@ -407,9 +307,7 @@ public final class Cascadery {
     }
 
     public int setWidth(int width) throws IllegalArgumentException {
-        if (!isBelow(width, MOST_NUMBER + 1)) {
-            throw new IllegalArgumentException();
-        }
+        refuseArgument(!isBelow(width, MOST_NUMBER + 1));
         int before = cascade.width;
         cascade.width = width;
         markAll();
@@ -419,71 +317,40 @@ public final class Cascadery {
     // ---- values; these calls read
 
     public int value(int element, int property) throws IndexOutOfBoundsException, IllegalArgumentException, IllegalStateException {
-        Element e = trees.at(element);
-        if (e == null) {
-            throw new IndexOutOfBoundsException();
-        }
-        if (!isBelow(property, PROPERTIES)) {
-            throw new IllegalArgumentException();
-        }
-        if (!trees.holdsElement(e)) {
-            throw new IllegalStateException();
-        }
+        Element e = elementAt(element);
+        refuseArgument(!isBelow(property, PROPERTIES));
+        refuseState(!trees.holdsElement(e));
         read();
         return e.kept.values[property];
     }
 
     public int size(int element) throws IndexOutOfBoundsException, IllegalStateException {
-        Element e = trees.at(element);
-        if (e == null) {
-            throw new IndexOutOfBoundsException();
-        }
-        if (!trees.holdsElement(e)) {
-            throw new IllegalStateException();
-        }
+        Element e = elementAt(element);
+        refuseState(!trees.holdsElement(e));
         read();
         return e.kept.values[HOLDS] > 0 ? e.kept.size : NONE;
     }
 
     public int seen(int element, int property) throws IndexOutOfBoundsException, IllegalArgumentException, IllegalStateException {
-        Element e = trees.at(element);
-        if (e == null) {
-            throw new IndexOutOfBoundsException();
-        }
-        if (!isBelow(property, SEEN_PROPERTIES)) {
-            throw new IllegalArgumentException();
-        }
-        if (!trees.holdsElement(e)) {
-            throw new IllegalStateException();
-        }
+        Element e = elementAt(element);
+        refuseArgument(!isBelow(property, SEEN_PROPERTIES));
+        refuseState(!trees.holdsElement(e));
         read();
         return e.kept.seenAt(property, now, playedFor(e.kept));
     }
 
     public int made(int element) throws IndexOutOfBoundsException, IllegalStateException {
-        Element e = trees.at(element);
-        if (e == null) {
-            throw new IndexOutOfBoundsException();
-        }
-        if (!trees.holdsElement(e)) {
-            throw new IllegalStateException();
-        }
+        Element e = elementAt(element);
+        refuseState(!trees.holdsElement(e));
         read();
         return countAt(e);
     }
 
     public int why(int element, int property, int rule) throws IndexOutOfBoundsException, IllegalArgumentException, IllegalStateException {
-        Element e = trees.at(element);
-        Rule r = cascade.ruleAt(rule);
-        if (e == null || r == null) {
-            throw new IndexOutOfBoundsException();
-        }
-        if (!isBelow(property, PROPERTIES)) {
-            throw new IllegalArgumentException();
-        }
-        if (!trees.holdsElement(e)) {
-            throw new IllegalStateException();
-        }
+        Element e = elementAt(element);
+        Rule r = ruleAt(rule);
+        refuseArgument(!isBelow(property, PROPERTIES));
+        refuseState(!trees.holdsElement(e));
         read();
         cascade.prepare();
         return cascade.reason(r, e, property, holderOf(e, false));
@@ -492,16 +359,9 @@ public final class Cascadery {
     // ---- values without reading
 
     public int valueAnew(int element, int property) throws IndexOutOfBoundsException, IllegalArgumentException, IllegalStateException {
-        Element e = trees.at(element);
-        if (e == null) {
-            throw new IndexOutOfBoundsException();
-        }
-        if (!isBelow(property, PROPERTIES)) {
-            throw new IllegalArgumentException();
-        }
-        if (!trees.holdsElement(e)) {
-            throw new IllegalStateException();
-        }
+        Element e = elementAt(element);
+        refuseArgument(!isBelow(property, PROPERTIES));
+        refuseState(!trees.holdsElement(e));
         cascade.prepare();
         findAnew(e);
         return styleOf(e, true).values[property];
@@ -526,9 +386,7 @@ public final class Cascadery {
     // ---- ticks, animations, listeners
 
     public int tick(int ticks) throws IllegalArgumentException {
-        if (ticks < 1 || ticks > 1000) {
-            throw new IllegalArgumentException();
-        }
+        refuseArgument(ticks < 1 || ticks > 1000);
         now += ticks;
         return now;
     }
@@ -553,17 +411,10 @@ public final class Cascadery {
     }
 
     public int listen(int element, int property, int other, int name) throws IndexOutOfBoundsException, IllegalArgumentException, IllegalStateException {
-        Element heard = trees.at(element);
-        Element told = trees.at(other);
-        if (heard == null || told == null) {
-            throw new IndexOutOfBoundsException();
-        }
-        if (!isBelow(property, PROPERTIES) || !isBelow(name, CLASSES)) {
-            throw new IllegalArgumentException();
-        }
-        if (listenerCount >= MOST_LISTENERS) {
-            throw new IllegalStateException();
-        }
+        Element heard = elementAt(element);
+        Element told = elementAt(other);
+        refuseArgument(!isBelow(property, PROPERTIES) || !isBelow(name, CLASSES));
+        refuseState(listenerCount >= MOST_LISTENERS);
         listeners[listenerCount] = new Listener(heard, property, told, name);
         listenerCount++;
         return listenerCount - 1;
@@ -631,13 +482,59 @@ public final class Cascadery {
         return property == GAP_AND_EDGE ? EDGE : property;
     }
 
-    /** The declarations of a rule, or of an element itself; null if there is no such one. */
-    private Rule blockAt(int rule) {
-        if (rule < ELEMENT_OFFSET) {
-            return cascade.ruleAt(rule);
+    private static void refuseArgument(boolean isWrong) {
+        if (isWrong) {
+            throw new IllegalArgumentException();
         }
-        Element e = trees.at(rule - ELEMENT_OFFSET);
-        return e == null ? null : e.own;
+    }
+
+    private static void refuseBounds(boolean isWrong) {
+        if (isWrong) {
+            throw new IndexOutOfBoundsException();
+        }
+    }
+
+    private static void refuseState(boolean isWrong) {
+        if (isWrong) {
+            throw new IllegalStateException();
+        }
+    }
+
+    private Element elementAt(int number) {
+        Element e = trees.at(number);
+        if (e == null) {
+            throw new IndexOutOfBoundsException();
+        }
+        return e;
+    }
+
+    private Selector selectorAt(int number) {
+        Selector s = matcher.selectorAt(number);
+        if (s == null) {
+            throw new IndexOutOfBoundsException();
+        }
+        return s;
+    }
+
+    private Sheet sheetAt(int number) {
+        Sheet s = cascade.sheetAt(number);
+        if (s == null) {
+            throw new IndexOutOfBoundsException();
+        }
+        return s;
+    }
+
+    private Rule ruleAt(int number) {
+        Rule r = cascade.ruleAt(number);
+        if (r == null) {
+            throw new IndexOutOfBoundsException();
+        }
+        return r;
+    }
+
+    /** The declarations of a rule, or of an element itself. */
+    private Rule blockAt(int rule) {
+        return rule < ELEMENT_OFFSET ? ruleAt(rule) : elementAt(rule - ELEMENT_OFFSET).own;
     }
 
     private Animation animationAt(int animation) {

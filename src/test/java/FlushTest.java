@@ -23,6 +23,7 @@ public final class FlushTest {
         FlushTest test = new FlushTest();
         test.firstFlush();
         test.nearMarks();
+        test.featureMarks();
         test.farMarks();
         test.slotMarks();
         test.moveMarks();
@@ -150,6 +151,29 @@ public final class FlushTest {
         check.due("a selector of no rule", z.marked(), 0);
     }
 
+    /** Classes, states and attributes are told apart, whatever their numbers. */
+    private void featureMarks() {
+        int[][] features = new int[14][];
+        for (int i = 0; i < 14; i++) {
+            features[i] = i < 8 ? new int[] {CLASS, i, 0} : i < 12 ? new int[] {STATE, i - 8, 0} : new int[] {ATTRIBUTE, i - 12, 3};
+        }
+        for (int[] tested : features) {
+            Cascadery x = ruled(tested);
+            for (int[] changed : features) {
+                x.value(0, 0);
+                if (changed[0] == CLASS) {
+                    x.setClass(1, changed[1], true);
+                } else if (changed[0] == STATE) {
+                    x.setState(1, changed[1], true);
+                } else {
+                    x.setAttribute(1, changed[1], 3);
+                }
+                check.due("test " + tested[0] + " " + tested[1] + ", change " + changed[0] + " " + changed[1],
+                        x.marked(), tested == changed ? 2 : 0);
+            }
+        }
+    }
+
     private void farMarks() {
         int document = set(0, 1, 2, 3, 4, 9) | set(5, 6, 7);
         int shadow = set(5, 6, 7) | set(2) | set(8);
@@ -171,6 +195,22 @@ public final class FlushTest {
         int has = selected(w, HAS, 0, near);
         w.rule(0, selected(w, IS, has, 0));
         checkFar("HAS in IS", w, document, shadow, deep);
+        Cascadery v = forest();
+        selected(v, CLASS, 2, 0);
+        selected(v, HAS, 0, 0);
+        int other = selected(v, KIND, 1, 0);
+        v.rule(0, selected(v, IS, 1, 0, NOT, other, 0, NOT, 0, 0));
+        checkFar("HAS in the first of three", v, document, shadow, deep);
+        Cascadery t = forest();
+        selected(t, CLASS, 2, 0);
+        int third = selected(t, KIND, 1, 0);
+        t.rule(0, selected(t, HAS, 0, 0, HAS, 0, third));
+        t.rule(0, third);
+        checkFar("the first HAS of the first rule", t, document, shadow, deep);
+        Cascadery u = forest();
+        selected(u, CLASS, 2, 0, JOIN, 2, 0);
+        u.rule(0, selected(u, NOT, 0, 0, JOIN, 0, 0, KIND, 1, 0, JOIN, 1, 0, STATE, 2, 0));
+        checkFar("in NOT in another compound", u, document, shadow, deep);
     }
 
     private void checkFar(String what, Cascadery x, int document, int shadow, int deep) {
@@ -232,7 +272,7 @@ public final class FlushTest {
     }
 
     private void orderMarks() {
-        int[][] rows = {{NTH, 1, 1}, {JOIN, 2, 0}, {JOIN, 3, 0}};
+        int[][] rows = {{NTH, 1, 1}, {JOIN, 2, 0}, {JOIN, 3, 0}, {NTH, 0, 1, KIND, 1, 0}, {JOIN, 2, 0, JOIN, 0, 0}};
         for (int[] row : rows) {
             Cascadery x = ruled(row);
             x.put(10, 0, 2);
@@ -430,7 +470,8 @@ public final class FlushTest {
             Cascadery y = row();
             int s = selected(y, each);
             check.due("a selector of no rule", sharedBy(y), 3);
-            y.rule(0, selected(y, IS, s, 0));
+            y.rule(0, selected(y, IS, s, 0, JOIN, 1, 0, IS, 0, 0, KIND, 1, 0));
+            y.rule(0, 0);
             check.due("NTH, NEXT, LATER or HAS inside one of a rule", sharedBy(y), 0);
         }
     }
@@ -498,9 +539,11 @@ public final class FlushTest {
         check.due("the fourth flush takes the class again", x.value(1, TINT), 0);
         check.due("four flushes", x.flushes(), 5);
         check.due("what is left marked", x.marked(), 2);
+        check.due("why goes by the class of now", x.why(1, TINT, 0), 0);
+        check.due("the values do not", x.value(1, TINT), 0);
         check.due("the class is given again", x.setClass(1, 0, true), true);
         check.due("anew it is another one", x.valueAnew(1, TINT), 9);
         check.due("the next reading goes on", x.value(2, TINT), 0);
-        check.due("by four more", x.flushes(), 9);
+        check.due("by four more each", x.flushes(), 17);
     }
 }

@@ -24,6 +24,7 @@ public final class SelectorsTest {
         test.fullDrafts();
         test.weights();
         test.simpleTests();
+        test.changes();
         test.places();
         test.combinators();
         test.inner();
@@ -172,6 +173,37 @@ public final class SelectorsTest {
         check.due("shadow trees of loose ones have elements", x.allThat(empty, 2), set(6, 7, 8));
         x.setClass(3, 3, true);
         check.due("it is as of now", x.allThat(1, -1), set(1, 3));
+    }
+
+    /** What matches follows each change at once. */
+    private void changes() {
+        Cascadery x = forest();
+        selected(x, CLASS, 0, 0);
+        selected(x, STATE, 0, 0);
+        selected(x, ATTRIBUTE, 0, 1);
+        selected(x, ATTRIBUTE, 1, 1);
+        selected(x, PART, 2, 0);
+        for (int s = 0; s < 5; s++) {
+            check.due("nothing matches " + s, x.allThat(s, -1), 0);
+        }
+        x.setClass(1, 0, true);
+        check.due("a class", x.allThat(0, -1), set(1));
+        x.setState(1, 0, true);
+        check.due("a state", x.allThat(1, -1), set(1));
+        x.setAttribute(1, 0, 1);
+        check.due("attribute 0", x.allThat(2, -1), set(1));
+        x.setAttribute(1, 1, 1);
+        check.due("attribute 1", x.allThat(3, -1), set(1));
+        x.setPart(6, 2);
+        check.due("a part", x.allThat(4, -1), set(6));
+        x.setState(1, 0, false);
+        check.due("no state", x.allThat(1, -1), 0);
+        x.setAttribute(1, 0, -1);
+        check.due("no attribute", x.allThat(2, -1), 0);
+        int nth = selected(x, HOST, 0, 0, NTH, 0, 1);
+        check.due("the host is the second one", x.allThat(nth, 2), 0);
+        x.take(2);
+        check.due("place 1 without siblings", x.allThat(nth, 2), set(2));
     }
 
     private void places() {

@@ -156,6 +156,13 @@ public final class TicksTest {
         own(x, SPAN, PX, 120);
         own(x, EASE, PLAIN, 0);
         check.due("an EASE of 0 ends it", x.seen(1, SPAN), 120);
+        own(x, EASE, PLAIN, 10);
+        own(x, SPAN, PX, 130);
+        x.value(1, 0);
+        x.tick(5);
+        own(x, EASE, PLAIN, 0);
+        own(x, SPAN, PX, 120);
+        check.due("also back to where it began", x.seen(1, SPAN), 120);
         own(x, SPAN, PX, 140);
         own(x, EASE, PLAIN, -1);
         check.due("as one below 0", x.seen(1, SPAN), 140);

@@ -329,6 +329,12 @@ public final class ValuesTest {
         }
         own(x, 1, HOLDS, PLAIN, 1);
         own(x, 2, GAP, HELD, 10);
+        x.select();
+        x.sheet(0, -1, -1);
+        x.rule(0, 0);
+        x.declare(0, TINT, PLAIN, 1, false);
+        x.when(0, Cascadery.ROOMY, 700);
+        check.due("why", x.why(2, TINT, 0), 0);
         check.due("the size of both", x.size(1), 700);
         check.due("HELD by it", x.value(2, GAP), 70);
         int flushes = x.flushes();
@@ -336,10 +342,12 @@ public final class ValuesTest {
         check.due("nothing is marked", x.marked(), 0);
         check.due("the value stays", x.value(2, GAP), 70);
         check.due("so does the size", x.size(1), 700);
+        check.due("why goes by it", x.why(2, TINT, 0), 0);
         check.due("no flush", x.flushes(), flushes);
         check.due("anew it is another one", x.valueAnew(2, GAP), 40);
         own(x, 0, TINT, PLAIN, 0);
         check.due("with the next flush", x.value(2, GAP), 40);
+        check.due("why with it", x.why(2, TINT, 0), 7);
     }
 
     private void made() {
@@ -373,6 +381,15 @@ public final class ValuesTest {
     }
 
     private void anew() {
+        Cascadery y = chain(3);
+        own(y, 1, HOLDS, PLAIN, 1);
+        own(y, 1, SPAN, PX, 40);
+        own(y, 2, HOLDS, PLAIN, 1);
+        own(y, 2, GAP, HELD, 50);
+        own(y, 3, GAP, HELD, 50);
+        own(y, 3, SPAN, PX, -2000);
+        check.due("by the size of the holder anew", y.valueAnew(2, GAP), 20);
+        check.due("by the sum of the holder anew", y.valueAnew(3, GAP), -500);
         Cascadery x = chain(2);
         own(x, 1, TINT, PLAIN, 7);
         check.due("without flushing", x.valueAnew(2, TINT), 7);
