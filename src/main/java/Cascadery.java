@@ -61,7 +61,6 @@ public final class Cascadery {
 
     /** The values of elements as valueAnew() finds them. */
     private final Style[] anewStyles = new Style[MOST_ELEMENTS];
-    private final Element[] path = new Element[MOST_ELEMENTS];
     /** What is found for an element that is restyled, and what would come to a shown child of a holder. */
     private final Style foundStyle = new Style();
     private final Style freeStyle = new Style();
@@ -721,18 +720,16 @@ public final class Cascadery {
     }
 
     /** Finds the values of an element, and of all above it, from the top on. */
-    private void findAnew(Element e) {
-        int length = 0;
-        for (Element above = e; above != null && length < MOST_ELEMENTS; above = above.shownParent) {
-            path[length] = above;
-            length++;
+    private void findAnew(Element wanted) {
+        int line = 0;
+        for (Element e = wanted; e != null; e = e.shownParent) {
+            line |= 1 << e.number;
         }
-        for (int i = length - 1; i >= 0; i--) {
-            Element above = path[i];
-            Style style = styleOf(above, true);
-            findStyle(style, above, true);
-            if (style.values[HOLDS] > 0) {
-                style.size = sizeFor(above, true);
+        for (Element e = trees.top; e != null; e = e.after) {
+            if (isMember(line, e.number)) {
+                Style style = styleOf(e, true);
+                findStyle(style, e, true);
+                style.size = style.values[HOLDS] > 0 ? sizeFor(e, true) : 0;
             }
         }
     }
