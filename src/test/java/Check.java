@@ -39,6 +39,25 @@ final class Check {
         }
     }
 
+    /** The call must throw nothing. */
+    void taken(String what, Acting call) {
+        checked++;
+        try {
+            call.act();
+        } catch (RuntimeException e) {
+            wrong++;
+            System.out.println(name + ": " + what + " throws " + e + ", due is nothing");
+        }
+    }
+
+    void due(String what, String got, String want) {
+        checked++;
+        if (!got.equals(want)) {
+            wrong++;
+            System.out.println(name + ": " + what + " is\n" + got + "due is\n" + want);
+        }
+    }
+
     void bounds(String what, Acting call) {
         thrown(what, IndexOutOfBoundsException.class, call);
     }
