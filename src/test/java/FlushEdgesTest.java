@@ -1,5 +1,5 @@
 /** The edges of promises 33 to 36 and 40, and of what the document says of EDITS, FLUSHES and listeners. */
-public final class FlushEdgesTest extends Edges {
+public final class FlushEdgesTest extends TestBase {
     private FlushEdgesTest() {
         super("FlushEdgesTest");
     }
@@ -14,6 +14,7 @@ public final class FlushEdgesTest extends Edges {
         test.refusedEdits();
         test.nearFeatures();
         test.farFeatures();
+        test.featuresOfSeveral();
         test.featuresOfNoRule();
         test.attribute1();
         test.looseElements();
@@ -284,6 +285,35 @@ public final class FlushEdgesTest extends Edges {
                 checkMarks("far " + i, f, rows[i], true);
             }
         }
+    }
+
+    /** Several selectors inside of one, with different features: each of them counts. */
+    private void featuresOfSeveral() {
+        for (int[] f : FEATURES) {
+            for (int[] other : FEATURES) {
+                if (f != other) {
+                    int[][] near = {{NOT, 0, 0, NOT, 6, 0}, {NOT, 6, 0, IS, 0, 0}, {KIND, 1, 0, JOIN, 0, 0, IS, 0, 0, IS, 6, 0}};
+                    int[][] far = {{NOT, 0, 0, NOT, 6, 0, JOIN, 0, 0}, {NOT, 6, 0, NOT, 0, 0, JOIN, 0, 0},
+                        {HAS, 0, 0, HAS, 0, 6}, {HAS, 0, 6, HAS, 0, 0}, {IS, 0, 0, NOT, 6, 0, HOST, 0, 0}};
+                    for (int[] row : near) {
+                        check.due("near", markedOf2(f, other, row), set(2));
+                    }
+                    for (int[] row : far) {
+                        check.due("far", markedOf2(f, other, row), set(0, 1, 2, 3, 4, 6));
+                    }
+                }
+            }
+        }
+    }
+
+    /** What a change of the feature marks, when a selector has selectors inside that test it, and another feature. */
+    private static int markedOf2(int[] feature, int[] other, int[] row) {
+        Cascadery x = forest(feature);
+        selected(x, other[0], other[1], 0);
+        ruled(x, 0, row);
+        x.value(0, 0);
+        change(x, feature, 2);
+        return x.marked();
     }
 
     /** "some selector of a rule"; "rules count whether their sheets are on or off" */
@@ -778,6 +808,15 @@ public final class FlushEdgesTest extends Edges {
         own(x, 1, TINT, PLAIN, 10);
         x.value(0, 0);
         check.due("one out of the document has no values", x.setClass(2, 0, false), false);
+        x.put(1, 0, 0);
+        x.value(0, 0);
+        own(x, 1, TINT, PLAIN, 11);
+        x.value(0, 0);
+        check.due("back again, and changed", x.setClass(2, 0, false), true);
+        x.take(1);
+        own(x, 0, TINT, PLAIN, 12);
+        x.value(0, 0);
+        check.due("changed in the last flush, but not in this one", x.setClass(2, 0, false), false);
     }
 
     /** "by rising numbers of listeners; this is an edit" */

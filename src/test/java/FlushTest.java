@@ -1,23 +1,10 @@
 /** Promises 33 to 36 and 40: what edits mark, what flushes restyle, what counts as shared, and listeners. */
-public final class FlushTest {
-    private static final int KIND = Cascadery.KIND;
-    private static final int CLASS = Cascadery.CLASS;
-    private static final int STATE = Cascadery.STATE;
-    private static final int ATTRIBUTE = Cascadery.ATTRIBUTE;
-    private static final int NTH = Cascadery.NTH;
-    private static final int NOT = Cascadery.NOT;
-    private static final int IS = Cascadery.IS;
-    private static final int HAS = Cascadery.HAS;
-    private static final int HOST = Cascadery.HOST;
-    private static final int PART = Cascadery.PART;
-    private static final int TINT = Cascadery.TINT;
-    private static final int SPAN = Cascadery.SPAN;
-    private static final int PLAIN = Cascadery.PLAIN;
-    private static final int PX = Cascadery.PX;
-    /** Begins a compound in a row of selected(). */
-    private static final int JOIN = -1;
+public final class FlushTest extends TestBase {
     private static final int ALL = (1 << 10) - 1;
-    private final Check check = new Check("FlushTest");
+
+    private FlushTest() {
+        super("FlushTest");
+    }
 
     public static void main(String[] args) {
         FlushTest test = new FlushTest();
@@ -38,25 +25,6 @@ public final class FlushTest {
         test.listeners();
         test.circles();
         test.check.end();
-    }
-
-    private static int selected(Cascadery x, int... row) {
-        for (int i = 0; i < row.length; i += 3) {
-            if (row[i] == JOIN) {
-                x.join(row[i + 1]);
-            } else {
-                x.test(row[i], row[i + 1], row[i + 2]);
-            }
-        }
-        return x.select();
-    }
-
-    private static int set(int... numbers) {
-        int set = 0;
-        for (int n : numbers) {
-            set |= 1 << n;
-        }
-        return set;
     }
 
     /** 0 has 1, 2, 3; 2 has 4 and a shadow tree with 5 and 6; 6 has 7 and a shadow tree with 8; 3 has 9; 10 is loose. */

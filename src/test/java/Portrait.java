@@ -13,9 +13,9 @@ final class Portrait {
     private static final int RULES = 5;
     private static final int NONE = Cascadery.NONE;
 
-    static final List<BiConsumer<Portrait, Cascadery>> VIEWS = List.of(Portrait::numbers, Portrait::draft, Portrait::values,
-            Portrait::anew, Portrait::features, Portrait::matching, Portrait::reasons, Portrait::seen, Portrait::ticks,
-            Portrait::declared, Portrait::places, Portrait::listeners);
+    static final List<BiConsumer<Portrait, Cascadery>> VIEWS = List.of(Portrait::numbers, Portrait::draft,
+            Portrait::compounds, Portrait::values, Portrait::anew, Portrait::features, Portrait::matching, Portrait::reasons,
+            Portrait::seen, Portrait::ticks, Portrait::declared, Portrait::places, Portrait::listeners);
 
     private final StringBuilder text = new StringBuilder();
 
@@ -70,11 +70,7 @@ final class Portrait {
     /** How full the draft is, and what it matches. */
     private void draft(Cascadery x) {
         for (int i = 0; i < 5; i++) {
-            tell("test", () -> x.test(Cascadery.KIND, 1, 0));
-        }
-        tell("test PART", () -> x.test(Cascadery.PART, 2, 0));
-        for (int i = 0; i < 4; i++) {
-            tell("join", () -> x.join(Cascadery.BELOW));
+            tell("test", () -> x.test(Cascadery.NTH, 1, 1));
         }
         tell("select", x::select);
         for (int i = 0; i < SELECTORS; i++) {
@@ -82,6 +78,16 @@ final class Portrait {
             tell("weight " + selector, () -> x.weight(selector));
             tell("allThat " + selector, () -> x.allThat(selector, NONE));
         }
+    }
+
+    /** How many compounds the draft may still get, and whether PART. */
+    private void compounds(Cascadery x) {
+        for (int i = 0; i < 4; i++) {
+            tell("join", () -> x.join(Cascadery.BELOW));
+        }
+        tell("test PART", () -> x.test(Cascadery.PART, 2, 0));
+        tell("select", x::select);
+        tell("its weight", () -> x.weight(6));
     }
 
     private void values(Cascadery x) {

@@ -6,7 +6,7 @@ import java.util.function.Supplier;
  * thrown." Each refused call is made on one of two objects that got the same calls before; then each view of a Portrait
  * must be the same of both.
  */
-public final class RefusalTest extends Edges {
+public final class RefusalTest extends TestBase {
     private static final int[] NO_ELEMENTS = {-1, 12, 30, 100, LEAST, MOST};
     private final Supplier<Cascadery> rich = Scene::rich;
     private final Supplier<Cascadery> full = Scene::full;
@@ -143,7 +143,7 @@ public final class RefusalTest extends Edges {
         refused("both wrong: setAttribute", rich, BOUNDS, x -> x.setAttribute(12, 2, 10));
         refused("both wrong: setPart", rich, BOUNDS, x -> x.setPart(12, 4));
         for (int wrong : new int[] {-1, 8, LEAST, MOST}) {
-            refused("the class " + wrong, rich, ARGUMENT, x -> x.setClass(1, wrong, true));
+            refused("the class " + wrong, rich, ARGUMENT, x -> x.setClass(6, wrong, true));
             refused("no class " + wrong, rich, ARGUMENT, x -> x.setClass(1, wrong, false));
         }
         for (int wrong : new int[] {-1, 4, LEAST, MOST}) {

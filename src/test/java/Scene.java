@@ -8,7 +8,7 @@ final class Scene {
      * 0 has the children 1, 2 and 6; 2 has the children 4 and 5, and a shadow tree with the tops 3 and 7, both slots;
      * 9 is loose, with the child 8 and a shadow tree with the top 10; 8 and 10 have empty shadow trees; 11 is loose.
      * There are 6 selectors, 2 of which has HOST and 3 PART, 3 sheets, 5 rules and a listener; the draft has two
-     * compounds, of which the last one has PART. A transition and an animation go on, and some elements are marked.
+     * compounds, of which the last one has PART, and matches 3. A transition and an animation go on, and some elements are marked.
      */
     static Cascadery rich() {
         Cascadery x = new Cascadery();
@@ -27,9 +27,9 @@ final class Scene {
         x.tick(2);
         x.declare(106, Cascadery.GAP, Cascadery.PX, 3, false);
         x.setClass(4, 0, true);
-        x.test(Cascadery.KIND, 1, 0);
-        x.join(Cascadery.NEXT);
-        x.test(Cascadery.PART, 1, 0);
+        x.test(Cascadery.KIND, 0, 0);
+        x.join(Cascadery.CHILD);
+        x.test(Cascadery.PART, 2, 0);
         return x;
     }
 
@@ -59,12 +59,12 @@ final class Scene {
     }
 
     private static void select(Cascadery x) {
-        Edges.selected(x, Cascadery.CLASS, 0, 0);
-        Edges.selected(x, Cascadery.KIND, 0, 0, Edges.JOIN, Cascadery.BELOW, 0, Cascadery.KIND, 1, 0);
-        Edges.selected(x, Cascadery.HOST, 0, 0);
-        Edges.selected(x, Cascadery.PART, 2, 0);
-        Edges.selected(x, Cascadery.NTH, 2, 1);
-        Edges.selected(x, Cascadery.NOT, 0, 0);
+        TestBase.selected(x, Cascadery.CLASS, 0, 0);
+        TestBase.selected(x, Cascadery.KIND, 0, 0, TestBase.JOIN, Cascadery.BELOW, 0, Cascadery.KIND, 1, 0);
+        TestBase.selected(x, Cascadery.HOST, 0, 0);
+        TestBase.selected(x, Cascadery.PART, 2, 0);
+        TestBase.selected(x, Cascadery.NTH, 2, 1);
+        TestBase.selected(x, Cascadery.NOT, 0, 0);
     }
 
     private static void declare(Cascadery x) {
@@ -91,7 +91,7 @@ final class Scene {
         x.declare(106, Cascadery.PLAY, Cascadery.PLAIN, 1, false);
     }
 
-    /** Like the rich scene, but with as much of everything as there may be, the draft too; all is marked. */
+    /** Like the rich scene, but with as much of everything as there may be, the draft too; only 6 is marked. */
     static Cascadery full() {
         Cascadery x = new Cascadery();
         putTogether(x);
@@ -100,7 +100,6 @@ final class Scene {
         for (int e = 12; e < 30; e++) {
             x.make(1);
         }
-        x.value(0, 0);
         for (int selector = 6; selector < 30; selector++) {
             x.select();
         }
@@ -111,8 +110,10 @@ final class Scene {
             x.rule(7, 29);
         }
         for (int listener = 0; listener < 6; listener++) {
-            x.listen(1, Cascadery.TINT, 2, 3);
+            x.listen(1, Cascadery.TINT, listener, 3);
         }
+        x.value(0, 0);
+        x.declare(106, Cascadery.GAP, Cascadery.PX, 3, false);
         fillDraft(x);
         return x;
     }

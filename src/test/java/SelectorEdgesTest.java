@@ -1,5 +1,5 @@
 /** The edges of promises 13 to 18, and of what the document says of SELECTORS: a test for each sentence that names one. */
-public final class SelectorEdgesTest extends Edges {
+public final class SelectorEdgesTest extends TestBase {
     private SelectorEdgesTest() {
         super("SelectorEdgesTest");
     }
@@ -20,6 +20,8 @@ public final class SelectorEdgesTest extends Edges {
         test.onePart();
         test.partGoesBehindAll();
         test.featuresTested();
+        test.asOfNow();
+        test.twoInside();
         test.nth();
         test.placeWithoutSiblings();
         test.reachedInDocument();
@@ -266,6 +268,46 @@ public final class SelectorEdgesTest extends Edges {
             }
             check.due("none is no number", x.allThat(selected(x, ATTRIBUTE, 1 - i % 2, 0), NONE), 0);
         }
+    }
+
+    /** What matches is found as the element is now, also when the same was asked right ahead of the change. */
+    private void asOfNow() {
+        Cascadery x = row(1);
+        int[] tests = {selected(x, CLASS, 3, 0), selected(x, STATE, 3, 0), selected(x, ATTRIBUTE, 0, 3), selected(x, ATTRIBUTE, 1, 3)};
+        for (int round = 0; round < 4; round++) {
+            boolean is = round % 2 == 0;
+            Check.Acting[] changes = {() -> x.setClass(1, 3, is), () -> x.setState(1, 3, is),
+                () -> x.setAttribute(1, 0, is ? 3 : NONE), () -> x.setAttribute(1, 1, is ? 3 : 0)};
+            for (int i = 0; i < changes.length; i++) {
+                check.due("ahead of change " + i, x.allThat(tests[i], NONE), is ? 0 : set(1));
+                changes[i].act();
+                check.due("behind change " + i, x.allThat(tests[i], NONE), is ? set(1) : 0);
+            }
+        }
+        x.shadow(1);
+        x.make(1);
+        int part = selected(x, PART, 0, 0);
+        check.due("without tops", x.allThat(part, NONE), 0);
+        x.putTop(2, 1, 0);
+        check.due("without the part", x.allThat(part, NONE), 0);
+        x.setPart(2, 0);
+        check.due("with the part", x.allThat(part, NONE), set(2));
+        x.take(2);
+        check.due("taken out", x.allThat(part, NONE), 0);
+    }
+
+    /** Several selectors inside of one, which were not asked for themselves. */
+    private void twoInside() {
+        Cascadery x = row(3);
+        int first = selected(x, NTH, 0, 1);
+        int third = selected(x, NTH, 0, 3);
+        int neither = selected(x, NOT, first, 0, NOT, third, 0);
+        check.due("neither of two", x.allThat(neither, NONE), set(2));
+        Cascadery y = row(3);
+        first = selected(y, NTH, 0, 1);
+        third = selected(y, NTH, 0, 3);
+        int between = selected(y, HAS, NEXT, third, NOT, first, 0, JOIN, NEXT, 0, IS, third, 0);
+        check.due("in two compounds", y.allThat(between, NONE), set(3));
     }
 
     /** "is a times some number from 0 on, plus b": all a and b, with twelve places */

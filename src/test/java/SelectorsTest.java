@@ -1,22 +1,8 @@
 /** Promises 13 to 18: drafts, selectors, weights, and what they match. */
-public final class SelectorsTest {
-    private static final int KIND = Cascadery.KIND;
-    private static final int CLASS = Cascadery.CLASS;
-    private static final int STATE = Cascadery.STATE;
-    private static final int ATTRIBUTE = Cascadery.ATTRIBUTE;
-    private static final int NTH = Cascadery.NTH;
-    private static final int NOT = Cascadery.NOT;
-    private static final int IS = Cascadery.IS;
-    private static final int HAS = Cascadery.HAS;
-    private static final int HOST = Cascadery.HOST;
-    private static final int PART = Cascadery.PART;
-    private static final int BELOW = Cascadery.BELOW;
-    private static final int CHILD = Cascadery.CHILD;
-    private static final int NEXT = Cascadery.NEXT;
-    private static final int LATER = Cascadery.LATER;
-    /** Begins a compound in a row of selected(). */
-    private static final int JOIN = -1;
-    private final Check check = new Check("SelectorsTest");
+public final class SelectorsTest extends TestBase {
+    private SelectorsTest() {
+        super("SelectorsTest");
+    }
 
     public static void main(String[] args) {
         SelectorsTest test = new SelectorsTest();
@@ -32,26 +18,6 @@ public final class SelectorsTest {
         test.parts();
         test.wrongQuestions();
         test.check.end();
-    }
-
-    /** Makes a selector: three numbers for each test, or JOIN, the combinator and any number. */
-    private static int selected(Cascadery x, int... row) {
-        for (int i = 0; i < row.length; i += 3) {
-            if (row[i] == JOIN) {
-                x.join(row[i + 1]);
-            } else {
-                x.test(row[i], row[i + 1], row[i + 2]);
-            }
-        }
-        return x.select();
-    }
-
-    private static int set(int... numbers) {
-        int set = 0;
-        for (int n : numbers) {
-            set |= 1 << n;
-        }
-        return set;
     }
 
     /**

@@ -1,5 +1,5 @@
 /** The edges of promises 19 to 26 and 31, and of what the document says of SHEETS AND RULES. */
-public final class SheetEdgesTest extends Edges {
+public final class SheetEdgesTest extends TestBase {
     private static final int[] UNITS_OF_LENGTHS = {PX, EM, TOP, HELD};
 
     private SheetEdgesTest() {

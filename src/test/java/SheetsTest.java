@@ -1,16 +1,8 @@
 /** Promises 19 to 26 and 31: sheets, rules, conditions, declarations, and which go ahead of others. */
-public final class SheetsTest {
-    private static final int LEAST = Integer.MIN_VALUE;
-    private static final int MOST = Integer.MAX_VALUE;
-    private static final int TINT = Cascadery.TINT;
-    private static final int GAP = Cascadery.GAP;
-    private static final int PLAIN = Cascadery.PLAIN;
-    private static final int PX = Cascadery.PX;
-    private static final int AGENT = Cascadery.AGENT;
-    private static final int USER = Cascadery.USER;
-    private static final int AUTHOR = Cascadery.AUTHOR;
-    private static final int REVERT = Cascadery.REVERT;
-    private final Check check = new Check("SheetsTest");
+public final class SheetsTest extends TestBase {
+    private SheetsTest() {
+        super("SheetsTest");
+    }
 
     public static void main(String[] args) {
         SheetsTest test = new SheetsTest();

@@ -1,5 +1,5 @@
 /** The edges of promises 29 and 37 to 39, and of what the document says of TICKS. */
-public final class TickEdgesTest extends Edges {
+public final class TickEdgesTest extends TestBase {
     private TickEdgesTest() {
         super("TickEdgesTest");
     }
@@ -241,6 +241,19 @@ public final class TickEdgesTest extends Edges {
         own(x, 1, GAP, PX, 70);
         x.put(1, 0, 0);
         check.due("the first values again", x.seen(1, GAP), 70);
+        for (int p = TINT; p <= EDGE; p++) {
+            Cascadery y = eased(10);
+            own(y, 1, SPAN, PX, 5);
+            own(y, 1, p, p == TINT ? PLAIN : PX, 40);
+            y.value(1, 0);
+            own(y, 1, p, p == TINT ? PLAIN : PX, 140);
+            y.value(1, 0);
+            y.take(1);
+            y.put(1, 0, 0);
+            check.due("with none going on, of " + p, y.seen(1, p), 140);
+            y.tick(1);
+            check.due("nor later, of " + p, y.seen(1, p), 140);
+        }
     }
 
     /** "When it is changed with an EASE of 0 or less, ... one that goes on ends" */
@@ -331,6 +344,15 @@ public final class TickEdgesTest extends Edges {
         check.due("the transition goes on", x.seen(1, GAP), 777);
         x.tick(1);
         check.due("for one tick", x.seen(1, GAP), 5);
+        own(x, 1, EASE, PLAIN, 1);
+        turn(x, 60);
+        own(x, 1, EASE, PLAIN, 10);
+        turn(x, 5);
+        x.frame(0, GAP, 0, 900);
+        x.frame(0, GAP, 10, 900);
+        check.due("one of one tick, and back: it goes on", x.seen(1, GAP), 5);
+        x.tick(1);
+        check.due("for one tick again", x.seen(1, GAP), 900);
     }
 
     /** "if a transition of it was going on, and the new value is the one from which that began" */

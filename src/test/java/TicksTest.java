@@ -1,15 +1,8 @@
 /** Promises 29 and 37 to 39: ticks, transitions, animations and their frames, and what is seen. */
-public final class TicksTest {
-    private static final int TINT = Cascadery.TINT;
-    private static final int SIZE = Cascadery.SIZE;
-    private static final int SPAN = Cascadery.SPAN;
-    private static final int GAP = Cascadery.GAP;
-    private static final int EASE = Cascadery.EASE;
-    private static final int PLAY = Cascadery.PLAY;
-    private static final int PLAIN = Cascadery.PLAIN;
-    private static final int PX = Cascadery.PX;
-    private static final int AUTO = Cascadery.AUTO;
-    private final Check check = new Check("TicksTest");
+public final class TicksTest extends TestBase {
+    private TicksTest() {
+        super("TicksTest");
+    }
 
     public static void main(String[] args) {
         TicksTest test = new TicksTest();

@@ -1,5 +1,5 @@
 /** The edges of promises 1 to 12, and of what the document says of TREES: a test for each sentence that names one. */
-public final class TreeEdgesTest extends Edges {
+public final class TreeEdgesTest extends TestBase {
     private TreeEdgesTest() {
         super("TreeEdgesTest");
     }
@@ -528,6 +528,11 @@ public final class TreeEdgesTest extends Edges {
         x.take(8);
         x.put(8, 7, 1);
         check.due("one deeper, but later", x.shownParent(2), 5);
+        x.take(5);
+        x.take(6);
+        check.due("behind a tree without slots", x.shownParent(2), 4);
+        x.put(x.make(1), 8, 0);
+        check.due("behind one of three levels", x.shownParent(2), 4);
     }
 
     /** "whose attribute 1 is the same as that of the child, none counting as one" */

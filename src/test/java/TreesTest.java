@@ -1,8 +1,8 @@
 /** Promises 2 to 12: elements, where they are, and what they have. */
-public final class TreesTest {
-    private static final int LEAST = Integer.MIN_VALUE;
-    private static final int MOST = Integer.MAX_VALUE;
-    private final Check check = new Check("TreesTest");
+public final class TreesTest extends TestBase {
+    private TreesTest() {
+        super("TreesTest");
+    }
 
     public static void main(String[] args) {
         TreesTest test = new TreesTest();

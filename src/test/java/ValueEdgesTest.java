@@ -1,5 +1,5 @@
 /** The edges of promises 27, 28, 30 and 32, and of what the document says of VALUES and of counters. */
-public final class ValueEdgesTest extends Edges {
+public final class ValueEdgesTest extends TestBase {
     private static final int[] INITIALS = {0, 16, AUTO_VALUE, 0, 0, 1, 0, 0, -1, 0, 0, -1, INVALID, INVALID, INVALID};
 
     private ValueEdgesTest() {
@@ -26,6 +26,7 @@ public final class ValueEdgesTest extends Edges {
         test.allCircles();
         test.circlesAndReverts();
         test.reverts();
+        test.revertsOfInheritedOnes();
         test.revertsOfImportantOnes();
         test.holdsAboveZero();
         test.nearestHolder();
@@ -432,6 +433,28 @@ public final class ValueEdgesTest extends Edges {
         x.declare(5, SHOWN, PLAIN, 9, false);
         check.due("not the other one of AUTHOR", x.value(1, SHOWN), 1);
         check.due("of another element", x.value(0, SHOWN), 1);
+    }
+
+    /** REVERT three times: "it is UNSET, if there is none", so it is inherited */
+    private void revertsOfInheritedOnes() {
+        for (int p : new int[] {TINT, SIZE, 12, 14}) {
+            for (int important = 0; important <= 1; important++) {
+                Cascadery x = chain(1);
+                own(x, 0, p, p == SIZE ? PX : PLAIN, 70);
+                x.test(KIND, 1, 0);
+                x.select();
+                for (int origin = AGENT; origin <= AUTHOR; origin++) {
+                    x.sheet(origin, NONE, NONE);
+                    x.rule(origin, 0);
+                    x.declare(origin, p, REVERT, 5, important == 1 && origin == AUTHOR);
+                }
+                check.due("of " + p, x.value(1, p), 70);
+                x.declare(0, p, INITIAL, 5, false);
+                check.due("INITIAL at last, of " + p, x.value(1, p), INITIALS[p]);
+                x.declare(0, p, REVERT, 5, true);
+                check.due("important at last, of " + p, x.value(1, p), 70);
+            }
+        }
     }
 
     /** "of a lesser origin than that, ..., important or not" */

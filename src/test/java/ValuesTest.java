@@ -1,27 +1,10 @@
 /** Promises 27, 28, 30 and 32: values, sizes of holders, what is made, and values found anew. */
-public final class ValuesTest {
-    private static final int TINT = Cascadery.TINT;
-    private static final int SIZE = Cascadery.SIZE;
-    private static final int SPAN = Cascadery.SPAN;
-    private static final int GAP = Cascadery.GAP;
-    private static final int EDGE = Cascadery.EDGE;
-    private static final int SHOWN = Cascadery.SHOWN;
-    private static final int HOLDS = Cascadery.HOLDS;
-    private static final int STEP = Cascadery.STEP;
-    private static final int RESET = Cascadery.RESET;
-    private static final int MADE = Cascadery.MADE;
-    private static final int PLAIN = Cascadery.PLAIN;
-    private static final int PX = Cascadery.PX;
-    private static final int EM = Cascadery.EM;
-    private static final int TOP = Cascadery.TOP;
-    private static final int PERCENT = Cascadery.PERCENT;
-    private static final int HELD = Cascadery.HELD;
-    private static final int AUTO = Cascadery.AUTO;
-    private static final int INITIAL = Cascadery.INITIAL;
-    private static final int INHERIT = Cascadery.INHERIT;
-    private static final int UNSET = Cascadery.UNSET;
+public final class ValuesTest extends TestBase {
     private static final int NO = Cascadery.INVALID;
-    private final Check check = new Check("ValuesTest");
+
+    private ValuesTest() {
+        super("ValuesTest");
+    }
 
     public static void main(String[] args) {
         ValuesTest test = new ValuesTest();
@@ -40,24 +23,6 @@ public final class ValuesTest {
         test.made();
         test.anew();
         test.check.end();
-    }
-
-    /** A row of elements, each the only child of the one ahead. */
-    private static Cascadery chain(int length) {
-        Cascadery x = new Cascadery();
-        for (int e = 1; e <= length; e++) {
-            x.make(1);
-            x.put(e, e - 1, 0);
-        }
-        return x;
-    }
-
-    private static void own(Cascadery x, int element, int property, int unit, int number) {
-        x.declare(100 + element, property, unit, number, false);
-    }
-
-    private static void ownVar(Cascadery x, int element, int property, int variable, int unit, int number) {
-        x.declareVar(100 + element, property, variable, unit, number, false);
     }
 
     private void wrongQuestions() {

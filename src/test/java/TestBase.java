@@ -1,7 +1,7 @@
 import java.util.function.IntConsumer;
 
 /** What the tests of edges share: the names of the face, short ways to build a document, and checks of ranges. */
-abstract class Edges {
+abstract class TestBase {
     static final int NONE = Cascadery.NONE;
     static final int AUTO_VALUE = Cascadery.AUTO_VALUE;
     static final int INVALID = Cascadery.INVALID;
@@ -61,7 +61,7 @@ abstract class Edges {
 
     final Check check;
 
-    Edges(String name) {
+    TestBase(String name) {
         check = new Check(name);
     }
 
