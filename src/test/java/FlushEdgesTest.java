@@ -25,6 +25,7 @@ public final class FlushEdgesTest extends TestBase {
         test.movesBelowHosts();
         test.ownDeclarations();
         test.allOthers();
+        test.allOfThirty();
         test.changedAbove();
         test.changedUnits();
         test.changedSizes();
@@ -445,6 +446,8 @@ public final class FlushEdgesTest extends TestBase {
             x.value(0, 0);
             x.put(9, 5, 0);
             check.due("without siblings", x.marked(), set(9));
+            x.turn(0, false);
+            checkMove("of a sheet that is off", x, 3, 0, set(4, 8), all | set(9));
         }
     }
 
@@ -552,6 +555,23 @@ public final class FlushEdgesTest extends TestBase {
             edits[i].act();
             check.due("all by edit " + i, x.marked(), span(0, 6));
         }
+    }
+
+    /** "Returns the marked elements that are in the document, as a set": of none, and of as many as there may be */
+    private void allOfThirty() {
+        Cascadery x = row(29);
+        check.due("all but 0, which has no values, but is not marked", x.marked(), span(1, 29));
+        x.value(29, 0);
+        check.due("none", x.marked(), 0);
+        check.due("restyled", x.restyled(), 30);
+        check.due("shared", x.shared(), 28);
+        x.setWidth(1000);
+        check.due("all", x.marked(), (1 << 30) - 1);
+        x.take(29);
+        check.due("but what is taken out", x.marked(), (1 << 29) - 1);
+        x.value(0, 0);
+        x.put(29, 28, 0);
+        check.due("the last one", x.marked(), 1 << 29);
     }
 
     private int restyledBy(Cascadery x) {
