@@ -21,6 +21,7 @@ public final class SelectorEdgesTest extends TestBase {
         test.partGoesBehindAll();
         test.featuresTested();
         test.asOfNow();
+        test.asOfTwoChanges();
         test.twoInside();
         test.nth();
         test.placeWithoutSiblings();
@@ -294,6 +295,48 @@ public final class SelectorEdgesTest extends TestBase {
         check.due("with the part", x.allThat(part, NONE), set(2));
         x.take(2);
         check.due("taken out", x.allThat(part, NONE), 0);
+    }
+
+    /** One change of the top 2, by its number. */
+    private static void change(Cascadery x, int number, boolean is) {
+        switch (number) {
+            case 0:
+                x.setClass(2, 3, is);
+                break;
+            case 1:
+                x.setState(2, 3, is);
+                break;
+            case 2:
+                x.setAttribute(2, 0, is ? 3 : NONE);
+                break;
+            case 3:
+                x.setAttribute(2, 1, is ? 3 : NONE);
+                break;
+            default:
+                x.setPart(2, is ? 3 : NONE);
+        }
+    }
+
+    /** Two changes, one to and one fro, with no question between them. */
+    private void asOfTwoChanges() {
+        int[][] tests = {{CLASS, 3, 0}, {STATE, 3, 0}, {ATTRIBUTE, 0, 3}, {ATTRIBUTE, 1, 3}, {PART, 3, 0}};
+        for (int first = 0; first < 5; first++) {
+            for (int second = 0; second < 5; second++) {
+                Cascadery x = row(1);
+                x.shadow(1);
+                x.make(1);
+                x.putTop(2, 1, 0);
+                int one = selected(x, tests[first]);
+                int two = selected(x, tests[second]);
+                change(x, second, true);
+                check.due("the second one", x.allThat(two, second == 4 ? NONE : 1), set(2));
+                check.due("the first one", x.allThat(one, first == 4 ? NONE : 1), first == second ? set(2) : 0);
+                change(x, first, true);
+                change(x, second, false);
+                check.due("the second one is gone", x.allThat(two, second == 4 ? NONE : 1), 0);
+                check.due("the first one is there", x.allThat(one, first == 4 ? NONE : 1), first == second ? 0 : set(2));
+            }
+        }
     }
 
     /** Several selectors inside of one, which were not asked for themselves. */
