@@ -8,7 +8,7 @@ public final class ConsistencyTest {
 
     private final Check check;
     private final Cascadery x = new Cascadery();
-    private long seed;
+    private final Dice dice;
     private int elements = 1;
     private int selectors;
     private int sheets;
@@ -17,12 +17,11 @@ public final class ConsistencyTest {
 
     private ConsistencyTest(Check check, int run) {
         this.check = check;
-        seed = run * 977L + 5;
+        dice = new Dice(run * 977L + 5);
     }
 
     private int below(int end) {
-        seed = seed * 6364136223846793005L + 1442695040888963407L;
-        return (int) ((seed >>> 33) % end);
+        return dice.below(end);
     }
 
     private void move() {

@@ -6,7 +6,7 @@ public final class RandomRunsTest {
     private static final int RUNS = 400;
     private static final int CALLS = 500;
 
-    private long seed;
+    private final Dice dice;
     private final Pair pair = new Pair();
     private int elements;
     /** How often things are wrong, moved, listened to. */
@@ -14,18 +14,17 @@ public final class RandomRunsTest {
     private final int flavour;
 
     private RandomRunsTest(int run) {
-        seed = run * 7919L + 17;
+        dice = new Dice(run * 7919L + 17);
         wrongness = run % 8 == 0 ? 10 : 100;
         flavour = run % 5;
     }
 
     private int below(int end) {
-        seed = seed * 6364136223846793005L + 1442695040888963407L;
-        return (int) ((seed >>> 33) % end);
+        return dice.below(end);
     }
 
     private boolean chance(int of) {
-        return below(of) == 0;
+        return dice.chance(of);
     }
 
     /** A number from least to most, now and then a bit outside. */
